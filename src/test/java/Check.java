@@ -56,6 +56,16 @@ final class Check {
         return x.read();
     }
 
+    /** Makes the moves of a text by move, and answers what the last one did. */
+    static int play(BargeChess x, String moves) {
+        int answer = 0;
+        for (String move : moves.split(";")) {
+            int last = move.length() - 1;
+            answer = x.move(Integer.parseInt(move.substring(0, last)), "urdl".indexOf(move.charAt(last)));
+        }
+        return answer;
+    }
+
     static String row(BargeChess x, int row) {
         StringBuilder signs = new StringBuilder();
         int length = x.describe(row);
@@ -96,17 +106,19 @@ final class Check {
         return x;
     }
 
-    /** All that can be asked, but for the line, as one text: to see that nothing changed. */
+    /** All that changes can change, in 84 calls, as one text: to see that nothing changed. */
     static String all(BargeChess x) {
         StringBuilder all = new StringBuilder();
         for (int what = 0; what < 17; what++) {
             all.append(x.account(what)).append(what == 14 || what == 16 ? ";" : ",");
         }
         for (int square = 0; square < 36; square++) {
-            all.append(x.squareOf(square, 0)).append(x.squareOf(square, 1)).append(x.squareOf(square, 2)).append(',');
+            all.append(x.squareOf(square, 0)).append(',');
         }
         for (int lock = 0; lock < 4; lock++) {
-            all.append(x.lockOf(lock, 1)).append(',').append(x.lockOf(lock, 3)).append(',');
+            for (int what = 0; what < 4; what++) {
+                all.append(x.lockOf(lock, what)).append(',');
+            }
         }
         for (int what = 0; what < 6; what++) {
             all.append(x.sideOf(0, what)).append(',').append(x.sideOf(1, what)).append(',');
