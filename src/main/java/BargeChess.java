@@ -351,7 +351,7 @@ public final class BargeChess {
 
     /** Appends a character to the text. */
     public int append(int code) {
-        return text.add(code) ? text.length : BAD;
+        return text.addCharacter(code) ? text.length : BAD;
     }
 
     /** Reads the text as moves and makes them, all or none. */
@@ -648,7 +648,7 @@ public final class BargeChess {
             }
         }
 
-        private void copyFrom(Board other) {
+        private void copyBoard(Board other) {
             for (int square = 0; square < SQUARES; square++) {
                 pieces[square] = other.pieces[square];
             }
@@ -923,7 +923,7 @@ public final class BargeChess {
         private final long[] lowKeys = new long[MOST_POSITIONS];
         private final long[] highKeys = new long[MOST_POSITIONS];
 
-        private void copyFrom(History other) {
+        private void copyHistory(History other) {
             count = other.count;
             for (int index = 0; index < count && index < MOST_POSITIONS; index++) {
                 lowKeys[index] = other.lowKeys[index];
@@ -931,7 +931,7 @@ public final class BargeChess {
             }
         }
 
-        private void add(long lowKey, long highKey) {
+        private void addPosition(long lowKey, long highKey) {
             if (count >= 0 && count < MOST_POSITIONS) {
                 lowKeys[count] = lowKey;
                 highKeys[count] = highKey;
@@ -986,8 +986,8 @@ public final class BargeChess {
         private final int[] becameTugs = new int[SIDES];
 
         private void copyFrom(Game other) {
-            board.copyFrom(other.board);
-            history.copyFrom(other.history);
+            board.copyBoard(other.board);
+            history.copyHistory(other.history);
             begun = other.begun;
             ending = other.ending;
             turn = other.turn;
@@ -1060,7 +1060,7 @@ public final class BargeChess {
 
         private void recordPosition() {
             int sideAndLocks = board.closedKey() * SIDES + sideToMove();
-            history.add(board.halfKey(0), board.halfKey(SQUARES / 2) * 32 + sideAndLocks);
+            history.addPosition(board.halfKey(0), board.halfKey(SQUARES / 2) * 32 + sideAndLocks);
         }
 
         /** Answers how often the position has come, or 0 if the game ended otherwise than by that. */
@@ -1133,7 +1133,7 @@ public final class BargeChess {
         private final int[] squares = new int[MOST_TEXT_MOVES];
         private final int[] directions = new int[MOST_TEXT_MOVES];
 
-        private boolean add(int code) {
+        private boolean addCharacter(int code) {
             if (code < 32 || code > 126 || length < 0 || length >= MOST_CHARACTERS) {
                 return false;
             }
