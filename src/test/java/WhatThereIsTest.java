@@ -117,6 +117,10 @@ public final class WhatThereIsTest {
         countMoves(".tBBB. ...... ...... ...... ...... .....T", 2);
         countMoves("...tBB ...... ...... ...... ...... .....T", 3);
         countMoves("..tBBB ...... ...... ...... ...... .....T", 2);
+        // A gap ends the line.
+        countMoves(".b.BB. ...... ...... ...... ...... .....T", 3);
+        countMoves(".BB.b. ...... ...... ...... ...... .....T", 3);
+        countMoves("...... ...... b..... ...... B..... B....T", 2);
         // Up 4; right and left 2 each: the foremost, and the one behind it.
         countMoves(".bbbb. ...... ...... ...... ...... .....T", 8);
         // Up the foremost two barges, but all three tugs; right 3; down two tugs, as what is pushed goes off.
