@@ -1,5 +1,8 @@
+import java.lang.reflect.Method;
 import java.util.ArrayList;
 import java.util.List;
+import java.util.function.Supplier;
+import java.util.function.ToIntFunction;
 
 /** Compares answers with those that are due, and helps to write games down. */
 final class Check {
@@ -31,6 +34,40 @@ final class Check {
     /** The same for what has no cause and stands in no text. */
     void refused(String call, BargeChess x, int reason, int detail) {
         refused(call, x, reason, detail, BargeChess.NOTHING, BargeChess.NOTHING, BargeChess.NOTHING);
+    }
+
+    /** Makes a call that is due to answer an error code, and looks whether all stays, and the reasons. */
+    void error(String call, Supplier<BargeChess> made, ToIntFunction<BargeChess> run, int want) {
+        BargeChess x = made.get();
+        String before = all(x) + reasons(x);
+        due(call, run.applyAsInt(x), want);
+        due("all behind " + call, all(x) + reasons(x), before);
+    }
+
+    /** Makes a call that is due to be refused, and looks whether all else stays. */
+    void refuses(String call, Supplier<BargeChess> made, ToIntFunction<BargeChess> run, int... want) {
+        BargeChess x = made.get();
+        String before = all(x);
+        due(call, run.applyAsInt(x), BargeChess.REFUSED);
+        for (int what = 0; what < 5; what++) {
+            int told = what < want.length ? want[what] : BargeChess.NOTHING;
+            due("refusal(" + what + ") behind " + call, x.refusal(what), told);
+        }
+        due("all behind " + call, all(x), before);
+    }
+
+    /** Makes a call that only asks, and looks whether all stays, and the reasons. */
+    void asks(String call, Supplier<BargeChess> made, ToIntFunction<BargeChess> run, int want) {
+        error(call, made, run, want);
+    }
+
+    /** Runs every method of a class whose name begins with "promise", so that none is forgotten. */
+    void promises(Class<?> tests) throws ReflectiveOperationException {
+        for (Method method : tests.getDeclaredMethods()) {
+            if (method.getName().startsWith("promise")) {
+                method.invoke(null);
+            }
+        }
     }
 
     void end(String name) {
@@ -104,6 +141,35 @@ final class Check {
         BargeChess x = set(rows);
         x.begin();
         return x;
+    }
+
+    /**
+     * Plays the turns from one number to another: a tug t that began on 0 and a tug T that began on 5
+     * go round in the columns 0, 1, 4 and 5. No position of theirs comes again within 119 turns.
+     */
+    static int rounds(BargeChess x, int from, int to) {
+        int answer = 0;
+        for (int turn = from; turn < to; turn++) {
+            int[] way = turn % 2 == 0 ? LEFT_ROUND : RIGHT_ROUND;
+            answer = step(x, way[turn / 2 % way.length], way[(turn / 2 + 1) % way.length]);
+        }
+        return answer;
+    }
+
+    private static final int[] LEFT_ROUND = {0, 6, 12, 18, 24, 30, 31, 25, 19, 13, 7, 1};
+    private static final int[] RIGHT_ROUND = {5, 11, 17, 23, 29, 28, 22, 16, 10, 4};
+
+    /** Moves a piece from a square to the one beside it. */
+    static int step(BargeChess x, int from, int to) {
+        return x.move(from, to == from + 6 ? 0 : to == from + 1 ? 1 : to == from - 6 ? 2 : 3);
+    }
+
+    private static String reasons(BargeChess x) {
+        StringBuilder reasons = new StringBuilder("|");
+        for (int what = 0; what < 5; what++) {
+            reasons.append(x.refusal(what)).append(',');
+        }
+        return reasons.toString();
     }
 
     /** All that changes can change, in 84 calls, as one text: to see that nothing changed. */

@@ -194,7 +194,7 @@ public final class UndoTest {
         String rows = Check.board(x);
         check.due("another position", Check.play(x, "0r;35l;1l;34r"), 2);
         check.due("mostRepeats()", x.mostRepeats(), 2);
-        for (int time = 0; time < 3; time++) {
+        for (int time = 0; time < 2; time++) {
             check.due("restore()", x.restore(), 4);
             check.due("all", board(x), saved);
             check.due("board", Check.board(x), rows);
