@@ -151,6 +151,16 @@ public final class BoundaryAheadTest {
         take("...tbB ...... ...... ...... ...... .....T", 4 * 3 + 1);
     }
 
+    static void promise15TugsAreTakenToo() {
+        take("....tT ...... ...... ...... ...... .....T", 4 * 4 + 1);
+        take("....bT ...... ...... ...... ...... .....T", 4 * 4 + 1);
+        take("....tt ...... ...... ...... ...... .....T", NOTHING);
+        take("...tTt ...... ...... ...... ...... .....T", NOTHING);
+        String rows = "t..... ...... ...... ...... ...... ....Tt";
+        check.asks("the side 1's", played(rows, "0u"), BargeChess::firstTake, 4 * 34 + 1);
+        check.asks("not its own", played("t..... ...... ...... ...... ...... ....TT", "0u"), BargeChess::firstTake, NOTHING);
+    }
+
     static void promise15WhatCannotBePushedIsNotTaken() {
         take("...bBB ...... ...... ...... ...... .....T", NOTHING);
         take("..tBBB ...... ...... ...... ...... .....T", NOTHING);
